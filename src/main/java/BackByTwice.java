@@ -26,7 +26,7 @@ public final class BackByTwice {
     private static final int MOST_LAWS = 6;
     private static final int MOST_A = 15;
 
-    private static final int MOST_THOUGHT = 999;
+    private static final int MOST_IN_THOUGHT = 999;
     private static final int MOST_IN_TRUTH = 99;
     private static final int MOST_TIMES = 99;
 
@@ -230,7 +230,7 @@ public final class BackByTwice {
     // In thought: the row, turn by turn
 
     public int stands(int n, int place) {
-        if (!isBetween(n, 0, MOST_THOUGHT) || !truth.hasPlace(place)) {
+        if (!isBetween(n, 0, MOST_IN_THOUGHT) || !truth.hasPlace(place)) {
             return refuse(BAD);
         }
         if (truth.isLawless()) {
@@ -241,7 +241,7 @@ public final class BackByTwice {
     }
 
     public int behind(int n, int person, int what) {
-        if (!isBetween(n, 0, MOST_THOUGHT) || !truth.hasPerson(person) || !isBetween(what, 0, 2)) {
+        if (!isBetween(n, 0, MOST_IN_THOUGHT) || !truth.hasPerson(person) || !isBetween(what, 0, 2)) {
             return refuse(BAD);
         }
         if (truth.isLawless()) {
@@ -252,7 +252,7 @@ public final class BackByTwice {
     }
 
     public int served(int n) {
-        if (!isBetween(n, 1, MOST_THOUGHT)) {
+        if (!isBetween(n, 1, MOST_IN_THOUGHT)) {
             return refuse(BAD);
         }
         if (truth.isStuck()) {
@@ -267,7 +267,7 @@ public final class BackByTwice {
             return refuse(STUCK);
         }
         thought.become(truth);
-        for (int n = 1; n <= MOST_THOUGHT; n++) {
+        for (int n = 1; n <= MOST_IN_THOUGHT; n++) {
             thought.turn();
             if (thought.standsLike(truth)) {
                 return n;
@@ -284,18 +284,18 @@ public final class BackByTwice {
             return refuse(STUCK);
         }
         thought.become(truth);
-        return turnOfServing(person, k, MOST_THOUGHT);
+        return turnOfServing(person, k, MOST_IN_THOUGHT);
     }
 
     public int never() {
         if (truth.isStuck()) {
             return refuse(STUCK);
         }
-        return truth.allBits() & ~servedBits(MOST_THOUGHT);
+        return truth.allBits() & ~servedBits(MOST_IN_THOUGHT);
     }
 
     public int stand(int n) {
-        if (!isBetween(n, 1, MOST_THOUGHT)) {
+        if (!isBetween(n, 1, MOST_IN_THOUGHT)) {
             return refuse(BAD);
         }
         if (truth.isStuck()) {
@@ -306,7 +306,7 @@ public final class BackByTwice {
     }
 
     public int leader(int n) {
-        if (!isBetween(n, 0, MOST_THOUGHT)) {
+        if (!isBetween(n, 0, MOST_IN_THOUGHT)) {
             return refuse(BAD);
         }
         if (truth.isStuck()) {
@@ -328,7 +328,7 @@ public final class BackByTwice {
         thought.become(truth);
         int most = NONE;
         int last = 0;
-        for (int n = 1; n <= MOST_THOUGHT; n++) {
+        for (int n = 1; n <= MOST_IN_THOUGHT; n++) {
             if (thought.turn() == person) {
                 most = Math.max(most, n - last);
                 last = n;
@@ -338,7 +338,7 @@ public final class BackByTwice {
     }
 
     public int several(int n) {
-        if (!isBetween(n, 0, MOST_THOUGHT)) {
+        if (!isBetween(n, 0, MOST_IN_THOUGHT)) {
             return refuse(BAD);
         }
         if (truth.isStuck()) {
@@ -355,7 +355,7 @@ public final class BackByTwice {
             return refuse(STUCK);
         }
         thought.become(truth);
-        for (int n = 0; n <= MOST_THOUGHT; n++) {
+        for (int n = 0; n <= MOST_IN_THOUGHT; n++) {
             if (Math.abs(thought.placeOf(person) - thought.placeOf(other)) == 1) {
                 return n;
             }
@@ -374,7 +374,7 @@ public final class BackByTwice {
         thinkBy(law);
         otherThought.become(truth);
         otherThought.force = other;
-        for (int n = 1; n <= MOST_THOUGHT; n++) {
+        for (int n = 1; n <= MOST_IN_THOUGHT; n++) {
             if (thought.turn() != otherThought.turn()) {
                 return n;
             }
@@ -383,7 +383,7 @@ public final class BackByTwice {
     }
 
     public int lawFor(int person, int n) {
-        if (!truth.hasPerson(person) || !isBetween(n, 0, MOST_THOUGHT)) {
+        if (!truth.hasPerson(person) || !isBetween(n, 0, MOST_IN_THOUGHT)) {
             return refuse(BAD);
         }
         if (truth.isLawless()) {
@@ -410,12 +410,12 @@ public final class BackByTwice {
             return refuse(FULL);
         }
         thought.become(truth);
-        return turnOfServing(thought.add(), 1, MOST_THOUGHT);
+        return turnOfServing(thought.add(), 1, MOST_IN_THOUGHT);
     }
 
     public int forward(int person, int k, int n) {
         if (!truth.hasPerson(person) || !isBetween(k, 1, MOST_TIMES)
-                || !isBetween(n, 0, MOST_THOUGHT)) {
+                || !isBetween(n, 0, MOST_IN_THOUGHT)) {
             return refuse(BAD);
         }
         if (truth.isLawless()) {
@@ -443,7 +443,7 @@ public final class BackByTwice {
         }
         thinkBy(law);
         thought.startAnew();
-        for (int n = 1; n <= MOST_THOUGHT; n++) {
+        for (int n = 1; n <= MOST_IN_THOUGHT; n++) {
             thought.turn();
             if (thought.countsApart() == 0) {
                 return n;
@@ -453,14 +453,14 @@ public final class BackByTwice {
     }
 
     public int spread(int law, int n) {
-        if (!truth.hasLaw(law) || !isBetween(n, 0, MOST_THOUGHT)) {
+        if (!truth.hasLaw(law) || !isBetween(n, 0, MOST_IN_THOUGHT)) {
             return refuse(BAD);
         }
         return truth.isEmpty() ? refuse(STUCK) : spreadBy(law, n);
     }
 
     public int fairest(int n) {
-        if (!isBetween(n, 0, MOST_THOUGHT)) {
+        if (!isBetween(n, 0, MOST_IN_THOUGHT)) {
             return refuse(BAD);
         }
         if (truth.isStuck()) {
@@ -520,17 +520,17 @@ public final class BackByTwice {
     }
 
     public int lies(int n, boolean in, int place, int k) {
-        if (!isPack(n) || !isBetween(place, 0, n - 1) || !isBetween(k, 0, MOST_THOUGHT)) {
+        if (!isPack(n) || !isBetween(place, 0, n - 1) || !isBetween(k, 0, MOST_IN_THOUGHT)) {
             return refuse(BAD);
         }
         return shuffledTimes(n, in, place, k);
     }
 
     public int stay(int n, boolean in, int k) {
-        if (!isPack(n) || !isBetween(k, 0, MOST_THOUGHT)) {
+        if (!isPack(n) || !isBetween(k, 0, MOST_IN_THOUGHT)) {
             return refuse(BAD);
         }
-        int times = Math.floorMod(k, Math.max(1, timesAgain(n, in)));
+        int times = k % Math.max(1, timesAgain(n, in));
         int staying = 0;
         for (int place = 0; place < n; place++) {
             if (shuffledTimes(n, in, place, times) == place) {
@@ -554,7 +554,7 @@ public final class BackByTwice {
     }
 
     public int tail(int n) {
-        if (!isBetween(n, 0, MOST_THOUGHT)) {
+        if (!isBetween(n, 0, MOST_IN_THOUGHT)) {
             return refuse(BAD);
         }
         if (truth.isStuck()) {
@@ -935,7 +935,7 @@ public final class BackByTwice {
         for (int place = 0; place < n; place++) {
             pack[place] = place;
         }
-        for (int times = 1; times <= MOST_THOUGHT; times++) {
+        for (int times = 1; times <= MOST_IN_THOUGHT; times++) {
             boolean asAtFirst = true;
             for (int place = 0; place < n; place++) {
                 pack[place] = shuffled(n, in, pack[place]);
@@ -1150,32 +1150,38 @@ public final class BackByTwice {
 
         /** Behind how many the first would go back by a law, were he served now. */
         private int stepsBack(int law) {
-            if (isEmpty() || !hasLaw(law)) {
+            int person = line[0];
+            if (!hasPerson(person) || !hasLaw(law)) {
                 return NONE;
             }
-            int person = line[0];
-            int others = people - 1;
+            // Not below 0 even if a COUNT, which has no bound in truth, had wrapped.
+            return Math.max(0, Math.min(stepsWanted(person, law), people - 1));
+        }
+
+        private int stepsWanted(int person, int law) {
+            int countThen = counts[person] + 1;
             switch (kinds[law]) {
                 case DOUBLE:
                 case HALF:
-                    return Math.min(lasts[person], others);
+                    return lasts[person];
                 case OWN:
-                    return Math.min(counts[person] + 1, others);
+                    return countThen;
                 case PLUS:
-                    return Math.min(counts[person] + 1 + amounts[law], others);
+                    return countThen + amounts[law];
                 case END:
-                    return others;
+                    return people - 1;
                 default:
-                    return Math.min(amounts[law], others);
+                    return amounts[law];
             }
         }
 
         /** What the LAST of the first would be by a law, were he served now. */
         private int lastThen(int law) {
-            if (isEmpty() || !hasLaw(law)) {
+            int person = line[0];
+            if (!hasPerson(person) || !hasLaw(law)) {
                 return NONE;
             }
-            int last = lasts[line[0]];
+            int last = lasts[person];
             if (!isUnder(kinds[law], DOUBLE)) {
                 return last;
             }

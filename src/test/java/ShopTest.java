@@ -13,6 +13,7 @@ public final class ShopTest {
         promise15Tokens();
         promise15ReadStatementByStatement();
         promise15Faults();
+        promise15EveryLetterOfEveryWord();
         promise15FaultsOfWhatThereIs();
         promise15AllOrNothing();
         promise15FullTape();
@@ -133,6 +134,8 @@ public final class ShopTest {
         DUE.is("TURNS", x.status(3), 3);
         DUE.is("in force", x.status(2), 1);
         DUE.is("the tape is empty", x.status(6), 0);
+        DUE.is("COUNT becomes 0", Due.read(x, "count 1 0"), 1);
+        DUE.is("COUNT", x.personOf(1, 1), 0);
         DUE.is("leave", Due.read(x, "leave 2"), 1);
         DUE.is("the row behind it", Due.digits(x), 901);
         DUE.is("people come to what there is", Due.read(x, "people 14"), 1);
@@ -218,6 +221,29 @@ public final class ShopTest {
         faulty("people 99999999999", 7);
         faulty("people 0; #", 7);
         faulty("#; people 0", 0);
+    }
+
+    private static void promise15EveryLetterOfEveryWord() {
+        String[] statements = {"people 1", "law 0 0", "use 0", "serve 1", "let 0", "leave 2",
+            "count 1 0"};
+        for (String right : statements) {
+            BackByTwice x = Due.shopOf("people 3; law 5 0");
+            DUE.is("shop of \"" + right + "\"", Due.read(x, right), 1);
+            int word = right.indexOf(' ');
+            for (int i = 0; i < word; i++) {
+                for (char other : new char[] {'a', 'z', (char) (right.charAt(i) + 1)}) {
+                    if (other != right.charAt(i)) {
+                        String wrong = right.substring(0, i) + other + right.substring(i + 1);
+                        DUE.is("shop of \"" + wrong + "\"", Due.read(x, wrong), -20);
+                    }
+                }
+            }
+            for (char more : new char[] {'a', 'z'}) {
+                DUE.is("shop, a letter ahead", Due.read(x, more + right), -20);
+                DUE.is("shop, a letter behind",
+                    Due.read(x, right.substring(0, word) + more + right.substring(word)), -20);
+            }
+        }
     }
 
     private static void promise15FaultsOfWhatThereIs() {

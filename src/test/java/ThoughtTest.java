@@ -31,6 +31,7 @@ public final class ThoughtTest {
         promise35Spread();
         promise36Fairest();
         promise44Tail();
+        withinJust999();
         nothingIsChanged();
         DUE.end();
     }
@@ -529,6 +530,38 @@ public final class ThoughtTest {
         BackByTwice z = nobody();
         DUE.refused("tail of nobody", z, () -> z.tail(0), -5);
         DUE.refused("tail, bad ahead of stuck", z, () -> z.tail(1000), -2);
+    }
+
+    /** By HALF, all LASTS 1 but those told: each pair is one of the PEOPLE and his LAST. */
+    private static BackByTwice halves(int people, int... pairs) {
+        BackByTwice x = Due.shopOf("law 3 0; people " + people);
+        for (int i = 0; i < pairs.length; i += 2) {
+            x.tell(pairs[i], 1, pairs[i + 1]);
+        }
+        return x;
+    }
+
+    /** Found by search: what comes first at TURN 999, and what at 1000, where nobody looks. */
+    private static void withinJust999() {
+        DUE.is("round, at 999", halves(10, 1, 4, 2, 9).round(), 999);
+        DUE.is("round, at 1000", halves(10, 0, 13, 2, 8, 3, 10).round(), -1);
+        DUE.is("beside, at 999", halves(15, 7, 11, 9, 11, 12, 6).beside(6, 14), 999);
+        DUE.is("beside, at 1000", halves(16, 7, 12, 11, 8, 12, 16).beside(7, 15), -1);
+        DUE.is("waits, to 999", halves(15, 5, 18, 13, 11).waits(7), 55);
+        BackByTwice x = halves(11, 3, 8, 9, 14);
+        DUE.is("waits, to 1000", x.waits(4), longestWait(x, 4));
+        DUE.is("waits, to 1000, isn't seen", x.waits(4) < 45 ? 1 : 0, 1);
+    }
+
+    private static int longestWait(BackByTwice x, int person) {
+        int most = 0;
+        int last = 0;
+        for (int k = 1; k <= 99; k++) {
+            int turn = x.when(person, k);
+            most = turn == -1 ? most : Math.max(most, turn - last);
+            last = turn == -1 ? last : turn;
+        }
+        return most;
     }
 
     private static void nothingIsChanged() {

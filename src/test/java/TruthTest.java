@@ -308,18 +308,20 @@ public final class TruthTest {
         x.image();
         x.law(1, 0);
         x.law(2, 0);
-        for (int law = 0; law < 4; law++) {
-            x.show(law, law);
+        int[] laws = {3, 0, 1, 2};
+        for (int s = 0; s < 4; s++) {
+            x.show(s, laws[s]);
         }
         x.row(4, 1, 2);
+        x.show(7, 3);
         DUE.answered("back", x, x::back, 1);
-        int[] due = {10, 11, -1, -1, 1, -1};
+        int[] due = {-1, 10, 11, -1, 1, -1, -1, -1};
         for (int s = 0; s < due.length; s++) {
             DUE.is("holds(" + s + ")", x.holds(s), due[s]);
         }
         DUE.is("shelves that hold something", x.status(8), 3);
         x.law(4, 4);
-        DUE.is("what holds nothing doesn't hold the next law", x.holds(2), -1);
+        DUE.is("what holds nothing doesn't hold the next law", x.holds(3), -1);
     }
 
     private static void promise60Status() {
