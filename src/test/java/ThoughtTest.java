@@ -466,6 +466,12 @@ public final class ThoughtTest {
         two.tell(0, 1, 9);
         two.moves(1, 0);
         DUE.answered("level of two by DOUBLE", two, () -> two.level(0), 2);
+        // LASTS 1 ahead: 0 1 0 1 2 0 2 and then 1 0 2 by turns, COUNTS 3 2 2, 3 3 2, 4 3 2, 4 3 3 ..
+        BackByTwice three = Due.shopOf("people 3; law 1 0");
+        for (int person = 0; person < 3; person++) {
+            three.tell(person, 1, 9);
+        }
+        DUE.answered("level, whatever LASTS are", three, () -> three.level(0), -1);
         DUE.refused("level(-1)", x, () -> x.level(-1), -2);
         DUE.refused("level(3)", x, () -> x.level(3), -2);
         BackByTwice y = Due.shopOf("people 1; law 0 3; count 0 8");
@@ -500,6 +506,7 @@ public final class ThoughtTest {
     private static void promise36Fairest() {
         BackByTwice x = Due.shopOf("people 4; law 0 0; law 1 0; law 5 0; law 0 3; count 2 9");
         x.use(3);
+        x.tell(0, 1, 9);
         DUE.answered("fairest of none", x, () -> x.fairest(0), 0);
         DUE.answered("fairest(1): all alike", x, () -> x.fairest(1), 0);
         DUE.answered("fairest(2)", x, () -> x.fairest(2), 1);
