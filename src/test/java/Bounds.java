@@ -110,8 +110,23 @@ abstract class Bounds {
         return new int[] {least, most};
     }
 
+    /** Another shop has been read, but with a FAULT: nothing of it may be left in what is asked. */
+    private static BackByTwice havingReadAnother(BackByTwice x, String another) {
+        if (Due.read(x, another + ";#") >= 0) {
+            throw new IllegalStateException("the test's own fault is none: " + another);
+        }
+        return x;
+    }
+
+    /** A shop by its text; it is kept with another SEED, and THE TAPE isn't empty. */
     static Supplier<BackByTwice> of(String text) {
-        return () -> Due.shopOf(text);
+        return () -> {
+            BackByTwice x = havingReadAnother(Due.shopOf(text), "law 2 3;use 0;people 1;serve 8");
+            x.image();
+            x.seed(5);
+            Due.feed(x, "count 0 9");
+            return x;
+        };
     }
 
     static BackByTwice nothing() {
@@ -120,14 +135,14 @@ abstract class Bounds {
 
     /** Four PEOPLE, no LAWS. */
     static BackByTwice lawless() {
-        BackByTwice x = Due.shopOf("people 4");
+        BackByTwice x = havingReadAnother(Due.shopOf("people 4"), "law 5 0;people 2;serve 3");
         Due.rowOf(x, 0, 0, 0, 1, 2, 3);
         return x;
     }
 
     /** Two LAWS, nobody. */
     static BackByTwice nobody() {
-        BackByTwice x = Due.shopOf("law 0 1; law 5 0");
+        BackByTwice x = havingReadAnother(Due.shopOf("law 0 1; law 5 0"), "law 5 0;people 4;serve 3");
         Due.rowOf(x, 0, 0, 0, 1, 2, 3);
         x.show(6, 1);
         return x;
@@ -142,31 +157,33 @@ abstract class Bounds {
         for (int kind = 0; kind < 6; kind++) {
             x.law(kind, 1);
         }
-        return x;
+        return havingReadAnother(x, "leave 15;leave 14;serve 9");
     }
 
     /**
-     * Something of all: five PEOPLE, row 3 4 2 0 1, COUNTS 1 1 2 7 0, LASTS 1 1 4 2 6; LAWS DOUBLE
-     * (IN FORCE), END, LAW 2; TURNS 5; SEED 99; THE TAPE; bytes 0 1 2 in SHELF 0, shorts, ints,
-     * longs and booleans in 1 to 4, NOTHING in 5, LAW 1 in 6, bytes 9 8 in 7; another state kept.
+     * Something of all, nothing as at first: five PEOPLE, row 3 4 2 0 1, COUNTS 1 1 2 7 0, LASTS
+     * 3 5 4 2 6; LAWS END, DOUBLE (IN FORCE), LAW 2; TURNS 5; SEED 99; THE TAPE; bytes 0 1 2 in
+     * SHELF 0, shorts, ints, longs and booleans in 1 to 4, NOTHING in 5, LAW 1 in 6, bytes 9 8 in 7;
+     * another state kept; one refused.
      */
     static BackByTwice usual() {
         BackByTwice x = new BackByTwice();
         for (int person = 0; person < 5; person++) {
             x.comes();
         }
-        x.law(1, 0);
         x.law(5, 3);
+        x.law(1, 0);
         x.seed(98);
         x.image();
         x.law(0, 2);
         x.seed(99);
-        x.use(1);
         x.serve(2);
-        x.use(0);
+        x.use(1);
         x.serve(3);
         x.tell(3, 0, 7);
         x.tell(4, 1, 6);
+        x.tell(0, 1, 3);
+        x.tell(1, 1, 5);
         Due.rowOf(x, 0, 0, 0, 1, 2);
         Due.rowOf(x, 1, 1, 5, 6);
         Due.rowOf(x, 2, 2, 4, 3);
@@ -174,8 +191,8 @@ abstract class Bounds {
         Due.rowOf(x, 4, 4, 1, 0, 1);
         x.show(6, 1);
         Due.rowOf(x, 7, 0, 9, 8);
+        havingReadAnother(x, "people 2;law 0 0;use 0;serve 9");
         Due.feed(x, "let 0");
-        x.at(-1);
         return x;
     }
 

@@ -368,6 +368,11 @@ final class BoundsOfShelves extends Bounds {
                 thought("says(" + s + ", 0)", shown("people 3;", 1), x -> x.says(s, 0), a[s]);
                 thought("says(" + s + ", 0), nobody", shown("", 0), x -> x.says(s, 0), a[s]);
             }
+            BackByTwice x = new BackByTwice();
+            x.law(4, 9);
+            x.show(0, 0);
+            is("says LAW at once", x.says(0, 0), 9);
+            is("says PLUS at once", x.says(0, 4), NONE);
         });
     }
 

@@ -52,8 +52,8 @@ final class BoundsOfShop extends Bounds {
         in("Promise 11:");
         hold("A LAW is IN FORCE: which was ahead.", () -> {
             done("use(0)", Bounds::nobody, x -> x.use(0), 0);
-            is("in force", done("use(2)", Bounds::usual, x -> x.use(2), 0).status(2), 2);
-            done("use, the last ahead", Bounds::usual, x -> 10 * x.use(2) + x.use(0), 2);
+            is("in force", done("use(2)", Bounds::usual, x -> x.use(2), 1).status(2), 2);
+            done("use, the last ahead", Bounds::usual, x -> 10 * x.use(2) + x.use(0), 12);
         });
         hold("BAD", () -> {
             refused("use(law)", Bounds::usual, outside(0, 2), BackByTwice::use, BAD);
@@ -157,7 +157,7 @@ final class BoundsOfShop extends Bounds {
     private void promise16PersonOf() {
         in("Promise 16:");
         hold("PLACE (0), COUNT (1), LAST (2)", () -> {
-            int[][] due = {{3, 1, 1}, {4, 1, 1}, {2, 2, 4}, {0, 7, 2}, {1, 0, 6}};
+            int[][] due = {{3, 1, 3}, {4, 1, 5}, {2, 2, 4}, {0, 7, 2}, {1, 0, 6}};
             for (int person = 0; person < 5; person++) {
                 for (int what = 0; what < 3; what++) {
                     int p = person;
@@ -178,8 +178,8 @@ final class BoundsOfShop extends Bounds {
     private void promise17LawOf() {
         in("Promise 17:");
         hold("KIND (0), a (1)", () -> {
-            thought("KIND of the first", Bounds::usual, x -> x.lawOf(0, 0), 1);
-            thought("a of the first", Bounds::usual, x -> x.lawOf(0, 1), 0);
+            thought("KIND of the first", Bounds::usual, x -> x.lawOf(0, 0), 5);
+            thought("a of the first", Bounds::usual, x -> x.lawOf(0, 1), 3);
             thought("KIND of the last", Bounds::usual, x -> x.lawOf(2, 0), 0);
             thought("a of the last", Bounds::usual, x -> x.lawOf(2, 1), 2);
         });

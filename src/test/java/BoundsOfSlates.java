@@ -29,7 +29,7 @@ final class BoundsOfSlates extends Bounds {
     /** The shop, longs in SHELF 0. */
     private static Supplier<BackByTwice> told(String shop, long... elements) {
         return () -> {
-            BackByTwice x = Due.shopOf(shop);
+            BackByTwice x = of(shop).get();
             Due.rowOf(x, 0, 3, elements);
             return x;
         };
@@ -74,6 +74,7 @@ final class BoundsOfSlates extends Bounds {
             });
         hold("NONE: it is so already, or by none.", () -> {
             thought("pushed, so already", told(ENDS, 0, 1, 2), x -> x.pushed(0, 3), NONE);
+            thought("pushed, so already, by moves, too", told(ENDS, 0), x -> x.pushed(0, 1), NONE);
             thought("pushed, none told", told(ENDS, 3), x -> x.pushed(0, 0), NONE);
             thought("pushed, by none", told(ENDS, 3, 2, 1, 0), x -> x.pushed(0, 4), NONE);
             thought("pushed, no such one", told(ENDS, 4), x -> x.pushed(0, 1), NONE);

@@ -427,7 +427,7 @@ final class BoundsOfTerms extends Bounds {
             refused("a LAW, not a ROW", Bounds::usual, x -> x.set(6, 0, 1), OTHER);
             refused("a ROW, not a LAW", Bounds::usual, x -> x.says(0, 0), OTHER);
             refused("another ROW", Bounds::usual, x -> x.copy(0, 1, 0, 0, 1), OTHER);
-            refused("another LAW", Bounds::usual, x -> x.says(6, 1), OTHER);
+            refused("another LAW", Bounds::usual, x -> x.says(6, 2), OTHER);
         });
         hold("-4 NOTHING: a SHELF that holds NOTHING", () -> {
             refused("no ROW", Bounds::usual, x -> x.judge(5, 0), NOTHING);

@@ -43,7 +43,7 @@ final class BoundsOfThought extends Bounds {
     /** By HALF, all LASTS 1 but those told: each pair is one of the PEOPLE and his LAST. */
     private static Supplier<BackByTwice> halves(int people, int... pairs) {
         return () -> {
-            BackByTwice x = Due.shopOf("law 3 0; people " + people);
+            BackByTwice x = of("law 3 0; people " + people).get();
             for (int i = 0; i < pairs.length; i += 2) {
                 x.tell(pairs[i], 1, pairs[i + 1]);
             }
@@ -133,13 +133,13 @@ final class BoundsOfThought extends Bounds {
     private void spreadAndFairest() {
         hold("with that LAW IN FORCE, all COUNTS 0 and LASTS 1 ahead of them: the greatest COUNT less "
             + "the least", () -> {
-                thought("spread(0, 0)", Bounds::usual, x -> x.spread(0, 0), 0);
+                thought("spread(1, 0)", Bounds::usual, x -> x.spread(1, 0), 0);
                 // By DOUBLE from 3 4 2 0 1, LASTS 1: 3 4 3 4 2.
-                thought("spread(0, 1)", Bounds::usual, x -> x.spread(0, 1), 1);
-                thought("spread(0, 4)", Bounds::usual, x -> x.spread(0, 4), 2);
-                thought("spread(1, 5)", Bounds::usual, x -> x.spread(1, 5), 0);
-                thought("spread(1, 999)", Bounds::usual, x -> x.spread(1, 999), 1);
-                thought("spread(1, 999)", STAYS, x -> x.spread(0, 999), 999);
+                thought("spread(1, 1)", Bounds::usual, x -> x.spread(1, 1), 1);
+                thought("spread(1, 4)", Bounds::usual, x -> x.spread(1, 4), 2);
+                thought("spread(0, 5)", Bounds::usual, x -> x.spread(0, 5), 0);
+                thought("spread(0, 999)", Bounds::usual, x -> x.spread(0, 999), 1);
+                thought("spread, the first staying", STAYS, x -> x.spread(0, 999), 999);
                 thought("spread of one alone", ALONE, x -> x.spread(0, 999), 0);
             });
         hold("FAIREST: the LAW of the least SPREAD of n TURNS, of several the first.", () -> {
@@ -164,6 +164,8 @@ final class BoundsOfThought extends Bounds {
                 thought("stands(0, " + p + ")", ENDS, x -> x.stands(0, p), p);
                 thought("stands(3, " + p + ")", ENDS, x -> x.stands(3, p), behind3[p]);
             }
+            thought("stands, nothing kept", () -> Due.shopOf("people 4; law 5 0"),
+                x -> x.stands(3, 0), 3);
         });
         hold("BAD", () -> {
             refused("stands(n, 0)", ENDS, outside(0, 999), (x, n) -> x.stands(n, 0), BAD);
@@ -384,12 +386,12 @@ final class BoundsOfThought extends Bounds {
                 thought("unlike, one alone", ALONE, x -> x.unlike(0, 1), NONE);
                 // Found by search: none were found that differ later.
                 thought("unlike, HALF and DOUBLE", () -> {
-                    BackByTwice x = Due.shopOf("people 16; law 3 0; law 1 0");
+                    BackByTwice x = of("people 16; law 3 0; law 1 0").get();
                     x.tell(7, 1, 6);
                     return x;
                 }, x -> x.unlike(0, 1), 79);
                 // LASTS as they are: by DOUBLE 3 goes behind 2, as by LAW 2, but 4 behind all then.
-                thought("unlike from now on", Bounds::usual, x -> x.unlike(0, 2), 5);
+                thought("unlike from now on", Bounds::usual, x -> x.unlike(1, 2), 5);
             });
         hold("BAD", () -> {
             refused("unlike(law, 0)", ENDS, outside(0, 2), (x, law) -> x.unlike(law, 0), BAD);
@@ -501,7 +503,7 @@ final class BoundsOfThought extends Bounds {
             // The latest that any LAW and number of PEOPLE come to, and one later than 999: at 1980.
             thought("level of ten by HALF", of("people 10; law 3 0"), x -> x.level(0), 900);
             thought("level of eleven by HALF", of("people 11; law 3 0"), x -> x.level(0), NONE);
-            thought("level, whatever COUNTS and LASTS are", Bounds::usual, x -> x.level(1), 5);
+            thought("level, whatever COUNTS and LASTS are", Bounds::usual, x -> x.level(0), 5);
         });
         hold("BAD", () -> {
             refused("level(law)", ENDS, outside(0, 2), BackByTwice::level, BAD);
