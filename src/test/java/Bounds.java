@@ -101,6 +101,14 @@ abstract class Bounds {
         return x;
     }
 
+    final void nobodyOrLawless(String name, Call call) {
+        hold("STUCK: nobody, no LAWS", () -> {
+            refused(name + " of nobody", Bounds::nobody, call, STUCK);
+            refused(name + " without LAWS", Bounds::lawless, call, STUCK);
+            refused(name + " of nothing", Bounds::nothing, call, STUCK);
+        });
+    }
+
     /** Just outside and far outside of what may be. */
     static int[] outside(int least, int most) {
         return new int[] {least - 1, most + 1, Integer.MIN_VALUE, Integer.MAX_VALUE};

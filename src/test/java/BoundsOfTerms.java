@@ -156,6 +156,17 @@ final class BoundsOfTerms extends Bounds {
             fault(Bounds::usual, "use 0serve 1", 5);
             fault(Bounds::usual, "use 0use", 5);
         });
+        hold("WORDS (a .. z), NUMBERS (digits), the SIGN ;", () -> {
+            is("people", reads(Bounds::nothing, "people 9;people 01", 2).status(0), 10);
+            fault(Bounds::usual, "use0a", 4);
+            fault(Bounds::usual, "use 10", 4);
+            fault(Bounds::usual, "use 19", 4);
+            for (char letter : new char[] {'a', 'z', '`', '{', '/', ':', ','}) {
+                fault(Bounds::usual, "use " + letter, 4);
+                boolean isOfWord = letter == 'a' || letter == 'z';
+                fault(Bounds::usual, "use" + letter + "0", isOfWord ? 0 : 3);
+            }
+        });
         hold("blanks (32) may stand anywhere between", () -> {
             String[] texts = {"people 2;law 5 3;use 3", "people2;law5 3;use3",
                 "  people  2  ;  law  5  3  ;  use  3  ", "people 2 ; law 5   3;use 3 "};

@@ -55,14 +55,6 @@ final class BoundsOfThought extends Bounds {
         hold("STUCK: no LAWS", () -> refused(name, Bounds::lawless, call, STUCK));
     }
 
-    private void nobodyOrLawless(String name, Call call) {
-        hold("STUCK: nobody, no LAWS", () -> {
-            refused(name + " of nobody", Bounds::nobody, call, STUCK);
-            refused(name + " without LAWS", Bounds::lawless, call, STUCK);
-            refused(name + " of nothing", Bounds::nothing, call, STUCK);
-        });
-    }
-
     private void badAheadOfStuck(String order, String name, Supplier<BackByTwice> stuck, Call... bad) {
         hold(order, () -> {
             for (Call call : bad) {

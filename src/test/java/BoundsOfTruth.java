@@ -29,14 +29,6 @@ final class BoundsOfTruth extends Bounds {
         promise60Refusals();
     }
 
-    private void nobodyOrLawless(String name, Call call) {
-        hold("STUCK: nobody, no LAWS", () -> {
-            refused(name + " of nobody", Bounds::nobody, call, STUCK);
-            refused(name + " without LAWS", Bounds::lawless, call, STUCK);
-            refused(name + " of nothing", Bounds::nothing, call, STUCK);
-        });
-    }
-
     /** The next SEED, in longs that don't wrap. */
     private static long next(long seed) {
         return Math.floorMod(Math.floorMod(seed, 1L << 32) * 1103515245L + 12345, 1L << 32);
