@@ -6,6 +6,7 @@ import java.lang.reflect.Modifier;
 import java.nio.file.Files;
 import java.nio.file.Path;
 import java.util.Arrays;
+import java.util.LinkedHashSet;
 import java.util.Set;
 import java.util.TreeSet;
 import java.util.regex.Matcher;
@@ -108,12 +109,60 @@ public final class LanguageTest {
             Matcher matcher = Pattern.compile("(?<![\\w.])(\\w+\\.)?" + word + "\\b").matcher(text);
             DUE.is("the text has " + word, matcher.find() ? 1 : 0, 0);
         }
-        DUE.is("the text has ::", text.contains("::") ? 1 : 0, 0);
+        for (String sign : new String[] {"::", "->"}) {
+            DUE.is("the text has " + sign, text.contains(sign) ? 1 : 0, 0);
+        }
+        DUE.is("signs beyond 127", source.chars().filter(sign -> sign > 127).count(), 0);
         Matcher imports = Pattern.compile("import\\s+([\\w.*]+)\\s*;").matcher(text);
         Set<String> library = Set.of("java.util.Arrays", "java.util.ArrayList", "java.util.List",
             "java.util.Iterator");
         while (imports.find()) {
             DUE.is("import of " + imports.group(1), library.contains(imports.group(1)) ? 1 : 0, 1);
         }
+        theLibrary(text);
+        theSizes(text);
+    }
+
+    /** What the program calls by a class's name (rule 4), and where it makes objects (rule 12). */
+    private static void theLibrary(String text) {
+        Set<String> library = Set.of("System.arraycopy", "Arrays.fill", "Arrays.copyOf",
+            "Arrays.copyOfRange", "Math.min", "Math.max", "Math.abs", "Math.floorMod", "Math.floorDiv",
+            "Integer.bitCount", "Integer.compare", "Long.bitCount", "Long.compare");
+        Matcher calls = Pattern.compile("\\b([A-Z]\\w*\\.[a-z]\\w*)\\s*\\(").matcher(text);
+        while (calls.find()) {
+            DUE.is("call of " + calls.group(1), library.contains(calls.group(1)) ? 1 : 0, 1);
+        }
+        boolean isInConstructor = false;
+        for (String line : text.split("\n")) {
+            if (line.matches(" {4,8}(public|private) .*\\{")) {
+                isInConstructor = line.matches(" +(public|private) [A-Z]\\w*\\(.*");
+            }
+            DUE.is("made outside a constructor:" + line.trim(),
+                line.matches(".*\\bnew\\b.*") && !isInConstructor ? 1 : 0, 0);
+        }
+    }
+
+    /** Rule 11. */
+    private static void theSizes(String text) {
+        DUE.is("more than twelve classes", allClasses().size() > 12 ? 1 : 0, 0);
+        for (Class<?> one : allClasses()) {
+            long fields = Arrays.stream(one.getDeclaredFields())
+                .filter(field -> !Modifier.isStatic(field.getModifiers())).count();
+            DUE.is(one + " has more than twenty fields", fields > 20 ? 1 : 0, 0);
+            for (Method method : one.getDeclaredMethods()) {
+                DUE.is(method + " takes more than seven", method.getParameterCount() > 7 ? 1 : 0, 0);
+            }
+        }
+        int length = 0;
+        for (String line : text.split("\n")) {
+            length = line.matches(" {4,8}(public|private) .*\\(.*") ? 0 : length + 1;
+            DUE.is("a method of more than sixty lines:" + line, length > 60 ? 1 : 0, 0);
+        }
+    }
+
+    private static Set<Class<?>> allClasses() {
+        Set<Class<?>> classes = new LinkedHashSet<>(Arrays.asList(BackByTwice.class.getDeclaredClasses()));
+        classes.add(BackByTwice.class);
+        return classes;
     }
 }
